@@ -1,0 +1,69 @@
+/** What the tests share: answers held against those that are due, and TEXTS put on the TAPE. */
+final class Due {
+    private final String about;
+    private int asked = 0;
+    private int wrong = 0;
+
+    Due(String about) {
+        this.about = about;
+    }
+
+    void is(String call, long got, long want) {
+        asked++;
+        if (got != want) {
+            wrong++;
+            System.out.println(about + ": " + call + " answered " + got + ", due is " + want);
+        }
+    }
+
+    void holds(String what, boolean so) {
+        is(what, so ? 1 : 0, 1);
+    }
+
+    /** Tells the sum of it; ends with exit code 1, if an answer was wrong. */
+    void close() {
+        System.out.println(about + ": " + asked + " asked, " + wrong + " wrong");
+        if (wrong != 0 || asked == 0) {
+            System.exit(1);
+        }
+    }
+
+    /** Puts bytes (characters 0 to 255) behind the TAPE; false, if there is no room. */
+    static boolean put(SoleReader x, String text) {
+        int had = x.count(5);
+        for (int i = 0; i < text.length(); i += 20) {
+            int[] five = new int[5];
+            for (int k = 0; k < 20; k++) {
+                int sign = i + k < text.length() ? text.charAt(i + k) : ' ';
+                five[k / 4] = five[k / 4] << 8 | sign;
+            }
+            if (x.feed(five[0], five[1], five[2], five[3], five[4]) == SoleReader.NONE) {
+                return false;
+            }
+        }
+        return x.end(had + text.length()) == had + text.length();
+    }
+
+    static int law(SoleReader x, String text) {
+        put(x, text);
+        return x.law();
+    }
+
+    static int orders(SoleReader x, String text) {
+        put(x, text);
+        return x.orders();
+    }
+
+    /** A new object under a LAW that is in FORCE. */
+    static SoleReader under(String law) {
+        SoleReader x = new SoleReader();
+        if (law(x, law) != 0 || x.force(0) != SoleReader.NONE) {
+            throw new IllegalStateException("no law: " + law);
+        }
+        return x;
+    }
+
+    static String times(String what, int n) {
+        return what.repeat(n);
+    }
+}
