@@ -18,7 +18,7 @@ public final class ModelTests {
         {0, 1}, {}, {1, 20, 0, 99}, {-1, 5, 0, 5, 0, 3}, {0, 1000000, 1, 60}, {0, 5, 0, 5}, {0, 1}, {0, 1}, {0, 14}, {}};
     /** How often each call is drawn: the acts more often, those that clear what can be undone seldom. */
     private static final int[] WEIGHTS = {3, 6, 4, 1, 6, 1, 1, 1, 1, 1, 1, 1, 2, 2, 5, 14, 10, 8, 6, 2, 6, 3, 3, 5, 4, 3,
-        3, 2, 3, 4, 3, 2, 3, 3, 2, 2, 4, 3, 6, 2, 2, 8, 6};
+        3, 2, 3, 4, 6, 1, 4, 4, 4, 2, 4, 3, 6, 2, 2, 8, 6};
 
     private final Random random;
     private final SoleReader x = new SoleReader();
@@ -51,9 +51,15 @@ public final class ModelTests {
                 return false;
             }
         }
-        while (calls < CALLS - 30) {
-            int kind = random.nextInt(12);
-            boolean fine = kind == 0 ? text(10) : kind == 1 ? text(11) : kind == 2 && random.nextInt(4) == 0 ? rowBytes()
+        int walls = random.nextInt(9);
+        for (int i = 0; i < walls; i++) {
+            if (!call(2, random.nextInt(25), 1)) {
+                return false;
+            }
+        }
+        while (calls < CALLS - 120) {
+            int kind = random.nextInt(48);
+            boolean fine = kind < 4 ? text(10) : kind < 8 ? text(11) : kind == 8 ? rowBytes() : kind == 9 ? fullTape()
                 : drawnCall();
             if (!fine) {
                 return false;
@@ -82,11 +88,8 @@ public final class ModelTests {
         if (firstIsPair && pairs > 0 && random.nextInt(20) != 0) {
             a[0] = random.nextInt(pairs);
         }
-        if (which == 2 && a[1] == 1 && random.nextInt(3) != 0) {
-            a[1] = 0;
-        }
         if (which == 5 && a[0] == 0 && random.nextBoolean()) {
-            a[1] = 900 + random.nextInt(103);
+            a[1] = 980 + random.nextInt(22);
         }
         return call(which, a);
     }
@@ -123,6 +126,14 @@ public final class ModelTests {
             bytes.append((char) (random.nextInt(30) == 0 ? random.nextInt(256) : random.nextInt(most)));
         }
         return putBoth(bytes.toString()) && call(8) && call(9);
+    }
+
+    private boolean fullTape() {
+        boolean fine = call(7, 0);
+        for (int i = 0; i < 22 && fine && random.nextInt(40) != 0; i++) {
+            fine = call(6, random.nextInt(), 0x01010101, 0x20202020, random.nextInt(), 0x18030900);
+        }
+        return fine && call(8 + random.nextInt(4)) && call(9) && call(12);
     }
 
     private boolean putBoth(String text) {
