@@ -236,6 +236,15 @@ public final class PaperTests {
         x.turn(1, 1);
         due.is("nearer", x.likest(1), 0);
         due.is("nearer", x.likest(0), 1);
+        SoleReader y = new SoleReader();
+        for (int i = 0; i < 3; i++) {
+            y.pair(0, 0, 0);
+        }
+        y.step(0);
+        y.step(2);
+        due.is("by the TOE", y.likest(0), 2);
+        due.is("by the TOE", y.couples(1), 2);
+        due.is("by RIGHT, too", y.turn(2, 1) >= 0 && y.turn(2, 1) >= 0 && y.likest(0) == 1 ? 1 : 0, 1);
         due.is("no such PAIR", x.likest(3), NONE);
         due.is("no such PAIR", x.likest(-1), NONE);
     }
@@ -298,6 +307,17 @@ public final class PaperTests {
         due.is("it can be none", x.look(0), NONE);
         due.is("it can be none", x.look(1), NONE);
         x.forget();
+        SoleReader y = new SoleReader();
+        for (int i = 0; i < 3; i++) {
+            y.pair(0, 0, 0);
+        }
+        y.step(2);
+        due.is("the most that are alike", y.look(1), 2);
+        y.seen(0, 0);
+        due.is("of those it can be", y.look(1), 2);
+        y.step(1);
+        due.is("of those it can be", y.look(1), 1);
+        due.is("of those it can be", y.look(0), 0);
         due.is("bad what", x.look(2), NONE);
         due.is("bad what", x.look(-1), NONE);
     }

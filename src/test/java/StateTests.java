@@ -235,6 +235,15 @@ public final class StateTests {
         x.pass();
         Due.put(x, "\u0001\u0001\u0001");
         due.is("row, full", x.row(), 0);
+        SoleReader y = new SoleReader();
+        Due.put(y, "\u0001\u0001\u0001");
+        due.is("three bytes", y.row(), 1);
+        due.is("no BRAD", y.brads(), 0);
+        Due.put(y, "\u0002\u0002");
+        due.is("what was on the TAPE earlier is gone", y.row(), 0);
+        due.is("a BRAD", y.brads(), 1);
+        Due.put(y, "\u0002");
+        due.is("what was on the TAPE earlier is gone", y.row(), 0);
         due.is("brads", x.brads(), 1);
         due.is("nothing can be undone", x.undo(), -3);
     }
@@ -382,6 +391,7 @@ public final class StateTests {
         due.is("these leave it", x.count(4), 5);
         due.is("pass", x.undo(), 4);
         due.is("day", x.count(12), 0);
+        due.is("it undoes no more", x.of(0, 3), 1);
         due.is("mend", x.undo(), 3);
         due.is("toe", x.of(0, 3), 2);
         due.is("pause", x.undo(), 2);
@@ -497,6 +507,22 @@ public final class StateTests {
         due.is("on paper", x.of(1, 0), 0);
         due.is("on paper, day", x.count(12), 1);
         due.is("on paper, undo", x.count(4), 1);
+        // s by seed 1: 13448, 845447, 537590; 845447 % 4 = 3: PAIR 0 PAUSES
+        due.is("no STEP", x.years(1, 1), 0);
+        due.is("its HEEL", x.drawn(0, 3), 1);
+        // s by seed 11: 24478, 11498, 694603; 11498 % 4 = 2, 694603 % 2 = 1: PAIR 0 TURNS right
+        due.is("no STEP", x.years(11, 1), 0);
+        due.is("its WAY", x.drawn(0, 1), 1);
+        due.is("its RIGHT", x.drawn(0, 5), 1);
+        due.is("the other's WAY", x.drawn(1, 1), 1);
+        // s by seed 31: 46538, 343606, 8626; 343606 % 4 = 2, 8626 % 2 = 0: PAIR 0 TURNS left
+        due.is("no STEP", x.years(31, 1), 0);
+        due.is("its WAY", x.drawn(0, 1), 3);
+        due.is("its LEFT", x.drawn(0, 4), 1);
+        SoleReader y = new SoleReader();
+        y.pair(5, 2, 0);
+        due.is("a STEP to CELL 0 is one, too", y.years(7, 1), 1);
+        due.is("CELL 0", y.drawn(0, 0), 0);
         due.is("largest seed", x.years(1000000, 60) >= 0 ? 1 : 0, 1);
     }
 
@@ -561,6 +587,8 @@ public final class StateTests {
         x.step(0);
         x.pair(1, 1, 1);
         x.pause(1);
+        x.step(1);
+        x.turn(1, 0);
         x.wall(3, 0);
         x.wall(4, 1);
         x.terms(0, 9);
@@ -584,6 +612,8 @@ public final class StateTests {
         due.is("force", x.count(11), 0);
         due.is("a new PAIR is not WORN", x.pair(2, 2, 2), 1);
         due.is("heel", x.of(1, 4), 0);
+        due.is("toe", x.of(1, 3), 0);
+        due.is("left", x.of(1, 5), 0);
         due.is("a new LAW", Due.law(x, "wears 7"), 1);
         x.force(1);
         due.is("by the new LAW", x.asks(0, 0, 0), 7);
@@ -594,6 +624,35 @@ public final class StateTests {
         due.is("back(0) again", x.back(0), 0);
         due.is("pairs", x.count(0), 1);
         due.is("canBe", x.canBe(), 0);
+        x.forget();
+        x.seen(1, 3);
+        due.is("canBe", x.canBe(), 1);
+        x.back(1);
+        x.seen(1, 3);
+        x.back(0);
+        due.is("what was SEEN then", x.canBe(), 0);
+        imagesOfSix();
+    }
+
+    private static void imagesOfSix() {
+        SoleReader x = new SoleReader();
+        for (int i = 0; i < 6; i++) {
+            x.pair(12, 0, i);
+            x.turn(i, 1);
+        }
+        x.image(0);
+        for (int i = 0; i < 6; i++) {
+            x.turn(i, 1);
+            x.step(i);
+        }
+        x.back(0);
+        for (int i = 0; i < 6; i++) {
+            due.is("right", x.of(i, 6), 1);
+            due.is("toe", x.of(i, 3), 0);
+            due.is("cell", x.of(i, 0), 12);
+            due.is("way", x.of(i, 1), 1);
+            due.is("load", x.of(i, 2), i);
+        }
     }
 
     private static void imagesKeepNotAll() {

@@ -8,6 +8,7 @@ public final class TextTests {
         lawFaults();
         limits();
         lawRoom();
+        manyTexts();
         sums();
         broken();
         tests();
@@ -60,6 +61,12 @@ public final class TextTests {
         lawFault("wears  ", 7);
         lawFault("wear 1", 0);
         lawFault("wearss 1", 0);
+        lawFault("wearsz 1", 0);
+        lawFault("wearsa 1", 0);
+        lawFault("wears`1", 5);
+        lawFault("wears{1", 5);
+        lawFault("wears/1", 5);
+        lawFault("wears:1", 5);
         lawFault("Wears 1", 0);
         lawFault("wEars 1", 0);
         lawFault("  step 1", 2);
@@ -141,6 +148,9 @@ public final class TextTests {
             26 + 14 + 7 * 49 + 1);
         orderFault("pass;".repeat(11) + "pass", NONE);
         orderFault("pass;".repeat(12) + "pass", 60);
+        orderFault("turn 0 to [[[[[[[[1]]]]]]]]", NONE);
+        orderFault("turn 0 to [[[[[[[[[1]]]]]]]]]", 18);
+        orderFault("turn [[[[[[[[0]]]]]]]] to 1", NONE);
         String longest = "wears 1" + Due.times(" ", 393);
         lawFault(longest, NONE);
         lawFault("wears 1 " + Due.times(" ", 391) + "?", 399);
@@ -164,6 +174,19 @@ public final class TextTests {
         x.pair(0, 0, 0);
         for (int i = 0; i < 6; i++) {
             due.is("compare", x.compare(i, 0, 0), i);
+        }
+    }
+
+    private static void manyTexts() {
+        SoleReader x = new SoleReader();
+        x.image(0);
+        for (int i = 0; i < 30; i++) {
+            due.is("law " + i, Due.law(x, "wears " + i % 9 + "+x".repeat(49)), 0);
+            due.is("orders " + i, Due.orders(x, "pass if 1" + "+1".repeat(40) + "=41"), 1);
+            due.is("laws", x.count(3), 1);
+            x.pair(10, 0, 0);
+            due.is("by it", x.compare(0, 0, 0), i % 9);
+            x.back(0);
         }
     }
 
@@ -253,6 +276,12 @@ public final class TextTests {
         test("1=1 and not 1=2 and 3>2", true);
         test("0-1<0", true);
         test("[1+1]*2>[2]+1", true);
+        test("not (not (1=1))", true);
+        test("not (not (1=2))", false);
+        test("not (not (1=1)) and 1=1", true);
+        test("not (1=1) or not (1=1)", false);
+        test("not (1=1) and 1=1 or 1=2", false);
+        test("1=2 or not (not (1=1) or 1=1)", false);
     }
 
     private static void whichClauseHolds() {
@@ -381,6 +410,10 @@ public final class TextTests {
         due.is("while it is so", Due.orders(x, "pass times 20 if day < 7"), 6);
         due.is("day", x.count(12), 7);
         due.is("undo", x.count(4), 14);
+        SoleReader y = new SoleReader();
+        y.pair(5, 2, 0);
+        due.is("to CELL 0, to WAY 0", Due.orders(y, "step 0; turn 0 to 1; turn 0 to 1; pass if latest = 0"), 4);
+        due.is("day", y.count(12), 1);
     }
 
     private static void ordersStop() {
