@@ -608,10 +608,7 @@ public final class SoleReader {
             cell[pairs] = atCell;
             faces[pairs] = way;
             load[pairs] = ofLoad;
-            // behind back() an earlier PAIR of that number may have left its WORN here
-            for (int part = 0; part < PARTS; part++) {
-                worn[pairs * PARTS + part] = 0;
-            }
+            Arrays.fill(worn, pairs * PARTS, pairs * PARTS + PARTS, 0);
             pairs++;
         }
 

@@ -45,7 +45,7 @@ final class Model {
         Test test;
     }
 
-    private static final class Shoe implements Cloneable {
+    private static final class Shoe {
         int cell;
         int way;
         int load;

@@ -1,3 +1,4 @@
+import java.lang.reflect.Method;
 import java.util.Random;
 
 /** Long runs of drawn calls: each is asked of SoleReader and of the Model, and both must answer alike. */
@@ -19,6 +20,9 @@ public final class ModelTests {
     /** How often each call is drawn: the acts more often, those that clear what can be undone seldom. */
     private static final int[] WEIGHTS = {3, 6, 4, 1, 6, 1, 1, 1, 1, 1, 1, 1, 2, 2, 5, 14, 10, 8, 6, 2, 6, 3, 3, 5, 4, 3,
         3, 2, 3, 4, 6, 1, 4, 4, 4, 2, 4, 3, 6, 2, 2, 8, 6};
+
+    private static final Method[] ITS_METHODS = methods(SoleReader.class);
+    private static final Method[] MODEL_METHODS = methods(Model.class);
 
     private final Random random;
     private final SoleReader x = new SoleReader();
@@ -174,8 +178,8 @@ public final class ModelTests {
         int[] a = new int[5];
         System.arraycopy(given, 0, a, 0, given.length);
         calls++;
-        long got = asked(x, which, a);
-        long want = asked(model, which, a);
+        long got = asked(x, ITS_METHODS, which, a);
+        long want = asked(model, MODEL_METHODS, which, a);
         told.append(NAMES[which]).append('(');
         for (int i = 0; i < ARGUMENTS[which]; i++) {
             told.append(i == 0 ? "" : ", ").append(a[i]);
@@ -184,99 +188,27 @@ public final class ModelTests {
         return got == want;
     }
 
-    private static long asked(SoleReader x, int which, int[] a) {
-        switch (which) {
-            case 0: return x.pair(a[0], a[1], a[2]);
-            case 1: return x.of(a[0], a[1]);
-            case 2: return x.wall(a[0], a[1]);
-            case 3: return x.walls();
-            case 4: return x.asks(a[0], a[1], a[2]);
-            case 5: return x.terms(a[0], a[1]);
-            case 6: return x.feed(a[0], a[1], a[2], a[3], a[4]);
-            case 7: return x.end(a[0]);
-            case 8: return x.row();
-            case 9: return x.brads();
-            case 10: return x.law();
-            case 11: return x.orders();
-            case 12: return x.fault();
-            case 13: return x.stopped();
-            case 14: return x.force(a[0]);
-            case 15: return x.step(a[0]);
-            case 16: return x.turn(a[0], a[1]);
-            case 17: return x.pause(a[0]);
-            case 18: return x.mend(a[0], a[1]);
-            case 19: return x.pass();
-            case 20: return x.undo();
-            case 21: return x.ways(a[0], a[1], a[2], a[3]);
-            case 22: return x.ends(a[0], a[1], a[2], a[3]);
-            case 23: return x.way(a[0], a[1], a[2]);
-            case 24: return x.least(a[0], a[1]);
-            case 25: return x.chance(a[0], a[1], a[2]);
-            case 26: return x.within(a[0], a[1]);
-            case 27: return x.couples(a[0]);
-            case 28: return x.likest(a[0]);
-            case 29: return x.lasts(a[0], a[1]);
-            case 30: return x.seen(a[0], a[1]);
-            case 31: return x.forget();
-            case 32: return x.canBe();
-            case 33: return x.look(a[0]);
-            case 34: return x.cutOff();
-            case 35: return x.few(a[0], a[1]);
-            case 36: return x.compare(a[0], a[1], a[2]);
-            case 37: return x.years(a[0], a[1]);
-            case 38: return x.drawn(a[0], a[1]);
-            case 39: return x.image(a[0]);
-            case 40: return x.back(a[0]);
-            case 41: return x.count(a[0]);
-            default: return x.status();
+    private static Method[] methods(Class<?> of) {
+        Method[] all = new Method[NAMES.length];
+        for (Method m : of.getDeclaredMethods()) {
+            for (int i = 0; i < NAMES.length; i++) {
+                if (m.getName().equals(NAMES[i]) && m.getParameterCount() == ARGUMENTS[i] && !m.isSynthetic()) {
+                    all[i] = m;
+                }
+            }
         }
+        return all;
     }
 
-    private static long asked(Model x, int which, int[] a) {
-        switch (which) {
-            case 0: return x.pair(a[0], a[1], a[2]);
-            case 1: return x.of(a[0], a[1]);
-            case 2: return x.wall(a[0], a[1]);
-            case 3: return x.walls();
-            case 4: return x.asks(a[0], a[1], a[2]);
-            case 5: return x.terms(a[0], a[1]);
-            case 6: return x.feed(a[0], a[1], a[2], a[3], a[4]);
-            case 7: return x.end(a[0]);
-            case 8: return x.row();
-            case 9: return x.brads();
-            case 10: return x.law();
-            case 11: return x.orders();
-            case 12: return x.fault();
-            case 13: return x.stopped();
-            case 14: return x.force(a[0]);
-            case 15: return x.step(a[0]);
-            case 16: return x.turn(a[0], a[1]);
-            case 17: return x.pause(a[0]);
-            case 18: return x.mend(a[0], a[1]);
-            case 19: return x.pass();
-            case 20: return x.undo();
-            case 21: return x.ways(a[0], a[1], a[2], a[3]);
-            case 22: return x.ends(a[0], a[1], a[2], a[3]);
-            case 23: return x.way(a[0], a[1], a[2]);
-            case 24: return x.least(a[0], a[1]);
-            case 25: return x.chance(a[0], a[1], a[2]);
-            case 26: return x.within(a[0], a[1]);
-            case 27: return x.couples(a[0]);
-            case 28: return x.likest(a[0]);
-            case 29: return x.lasts(a[0], a[1]);
-            case 30: return x.seen(a[0], a[1]);
-            case 31: return x.forget();
-            case 32: return x.canBe();
-            case 33: return x.look(a[0]);
-            case 34: return x.cutOff();
-            case 35: return x.few(a[0], a[1]);
-            case 36: return x.compare(a[0], a[1], a[2]);
-            case 37: return x.years(a[0], a[1]);
-            case 38: return x.drawn(a[0], a[1]);
-            case 39: return x.image(a[0]);
-            case 40: return x.back(a[0]);
-            case 41: return x.count(a[0]);
-            default: return x.status();
+    private static long asked(Object of, Method[] methods, int which, int[] a) {
+        Object[] given = new Object[ARGUMENTS[which]];
+        for (int i = 0; i < given.length; i++) {
+            given[i] = a[i];
+        }
+        try {
+            return ((Number) methods[which].invoke(of, given)).longValue();
+        } catch (ReflectiveOperationException e) {
+            throw new IllegalStateException(NAMES[which], e);
         }
     }
 }

@@ -242,8 +242,13 @@ public final class StateTests {
         Due.put(y, "\u0002\u0002");
         due.is("what was on the TAPE earlier is gone", y.row(), 0);
         due.is("a BRAD", y.brads(), 1);
-        Due.put(y, "\u0002");
+        y.feed(0x02020202, 0x02020202, 0, 0, 0);
+        y.end(1);
         due.is("what was on the TAPE earlier is gone", y.row(), 0);
+        y.feed(0x02020202, 0x02020202, 0, 0, 0);
+        y.end(5);
+        due.is("a PAIR", y.row(), 1);
+        due.is("and a BRAD", y.brads(), 1);
         due.is("brads", x.brads(), 1);
         due.is("nothing can be undone", x.undo(), -3);
     }
@@ -626,11 +631,12 @@ public final class StateTests {
         due.is("canBe", x.canBe(), 0);
         x.forget();
         x.seen(1, 3);
-        due.is("canBe", x.canBe(), 1);
-        x.back(1);
-        x.seen(1, 3);
+        x.image(0);
+        x.forget();
+        x.seen(2, 50);
+        due.is("canBe", x.canBe(), 0);
         x.back(0);
-        due.is("what was SEEN then", x.canBe(), 0);
+        due.is("what was SEEN then", x.canBe(), 1);
         imagesOfSix();
     }
 
