@@ -608,7 +608,9 @@ public final class SoleReader {
             cell[pairs] = atCell;
             faces[pairs] = way;
             load[pairs] = ofLoad;
-            Arrays.fill(worn, pairs * PARTS, pairs * PARTS + PARTS, 0);
+            for (int part = 0; part < PARTS; part++) {
+                worn[pairs * PARTS + part] = 0;
+            }
             pairs++;
         }
 
