@@ -1,7 +1,13 @@
+import java.util.ArrayList;
+import java.util.List;
+
 /** What the tests share: answers held against those that are due, and TEXTS put on the TAPE. */
 final class Due {
     private final String about;
+    private final List<String> quoted = new ArrayList<>();
+    private String sentence = "";
     private int asked = 0;
+    private int askedAhead = 0;
     private int wrong = 0;
 
     Due(String about) {
@@ -12,12 +18,39 @@ final class Due {
         asked++;
         if (got != want) {
             wrong++;
-            System.out.println(about + ": " + call + " answered " + got + ", due is " + want);
+            System.out.println(about + ": " + call + " answered " + got + ", due is " + want
+                + (sentence.isEmpty() ? "" : ", by: " + sentence));
         }
     }
 
     void holds(String what, boolean so) {
         is(what, so ? 1 : 0, 1);
+    }
+
+    /** The sentence of the document against which the answers that follow are held. */
+    void sentence(String quote) {
+        endSentence();
+        sentence = quote;
+        quoted.add(quote);
+    }
+
+    private void endSentence() {
+        String told = sentence;
+        sentence = "";
+        if (!told.isEmpty()) {
+            holds("an answer is asked of: " + told, asked > askedAhead);
+        }
+        askedAhead = asked;
+    }
+
+    /** Holds what was quoted since the latest call of this against a section: each word of it must have been quoted. */
+    void quotesAllOf(String section) {
+        endSentence();
+        for (String fault : Document.faults(section, quoted)) {
+            holds(fault, false);
+        }
+        quoted.clear();
+        askedAhead = asked;
     }
 
     /** Tells the sum of it; ends with exit code 1, if an answer was wrong. */
@@ -60,6 +93,20 @@ final class Due {
         if (law(x, law) != 0 || x.force(0) != SoleReader.NONE) {
             throw new IllegalStateException("no law: " + law);
         }
+        return x;
+    }
+
+    /** A new object with one PAIR, of LOAD 0. */
+    static SoleReader at(int cell, int way) {
+        SoleReader x = new SoleReader();
+        x.pair(cell, way, 0);
+        return x;
+    }
+
+    /** A new object with one PAIR, of LOAD 0, under a LAW that is in FORCE. */
+    static SoleReader at(int cell, int way, String law) {
+        SoleReader x = under(law);
+        x.pair(cell, way, 0);
         return x;
     }
 
