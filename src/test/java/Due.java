@@ -27,6 +27,12 @@ final class Due {
         is(what, so ? 1 : 0, 1);
     }
 
+    /** What a call was REFUSED by, by its answer and by status(). */
+    void refused(String call, SoleReader x, int answer, int by) {
+        is(call, answer, by);
+        is("status() behind " + call, x.status(), by);
+    }
+
     /** The sentence of the document against which the answers that follow are held. */
     void sentence(String quote) {
         endSentence();
@@ -51,6 +57,38 @@ final class Due {
         }
         quoted.clear();
         askedAhead = asked;
+    }
+
+    /** A TEXT as a LAW on a new object: where its FAULT is, NONE if it is a good one. */
+    void lawFault(String text, int at) {
+        SoleReader x = new SoleReader();
+        boolean good = at == SoleReader.NONE;
+        is("law '" + text + "'", law(x, text), good ? 0 : -6);
+        is("fault of '" + text + "'", x.fault(), at);
+        is("the TAPE behind '" + text + "'", x.count(5), 0);
+        is("laws behind '" + text + "'", x.count(3), good ? 1 : 0);
+        is("status behind '" + text + "'", x.status(), good ? 0 : -6);
+    }
+
+    /** A TEXT as ORDERS on a new object with one PAIR: where its FAULT is, NONE if it is a good one. */
+    void orderFault(String text, int at) {
+        SoleReader x = at(12, 0);
+        x.pause(0);
+        holds("orders '" + text + "'", orders(x, text) == -6 == (at != SoleReader.NONE));
+        is("fault of '" + text + "'", x.fault(), at);
+        is("the TAPE behind '" + text + "'", x.count(5), 0);
+    }
+
+    /** What a SUM comes to, told by mending (0 .. 99). */
+    void sum(String sum, int want) {
+        SoleReader x = under("leaves " + sum);
+        x.pair(13, 1, 4);
+        is("leaves " + sum, x.asks(0, 0, 1), want);
+    }
+
+    /** Whether a TEST is so, told by mending. */
+    void test(String test, boolean want) {
+        is("if " + test, at(0, 0, "leaves 1 if " + test).asks(0, 0, 1), want ? 1 : 0);
     }
 
     /** Tells the sum of it; ends with exit code 1, if an answer was wrong. */
@@ -107,6 +145,26 @@ final class Due {
     static SoleReader at(int cell, int way, String law) {
         SoleReader x = under(law);
         x.pair(cell, way, 0);
+        return x;
+    }
+
+    /**
+     * A new object with PAIRS in CELL 0 that FACE up, each WORN at its four PARTS as told; it has one LAW, which is not
+     * in FORCE, and the DAY is 0.
+     */
+    static SoleReader worn(int[]... byPair) {
+        SoleReader x = under("leaves day");
+        for (int pair = 0; pair < byPair.length; pair++) {
+            x.pair(0, 0, 0);
+            String it = pair + "";
+            orders(x, "step " + it + "; turn " + it + " to 0 times 2; step " + it + "; turn " + it + " to 1 times 2; pause " + it);
+            for (int part = 0; part < 4; part++) {
+                x.terms(0, byPair[pair][part]);
+                x.mend(pair, part);
+            }
+        }
+        x.terms(0, 0);
+        x.force(SoleReader.NONE);
         return x;
     }
 

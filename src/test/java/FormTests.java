@@ -58,12 +58,24 @@ public final class FormTests {
         }
         due.holds("the methods of the document, and no others: " + methods, methods.equals(new TreeSet<>(Arrays.asList(FACE))));
         due.is("methods", FACE.length, 43);
+        documentFace();
         Constructor<?>[] made = SoleReader.class.getDeclaredConstructors();
         due.holds("one public constructor", made.length == 1 && Modifier.isPublic(made[0].getModifiers())
             && made[0].getParameterCount() == 0);
         for (Field f : SoleReader.class.getDeclaredFields()) {
             due.holds("no other field is seen: " + f, Modifier.isPrivate(f.getModifiers()) || f.getName().equals("NONE"));
         }
+    }
+
+    /** FACE against 'The public face' of the document. */
+    private static void documentFace() {
+        String told = Document.section("public final class SoleReader", "```");
+        Set<String> methods = new TreeSet<>();
+        Matcher m = Pattern.compile("public (int|long) (\\w+)\\(([^)]*)\\);").matcher(told);
+        while (m.find()) {
+            methods.add(m.group(1) + " " + m.group(2) + "(" + m.group(3).replaceAll("int \\w+", "int").replace(" ", "") + ")");
+        }
+        due.holds("the document's face: " + methods, told.isEmpty() || methods.equals(new TreeSet<>(Arrays.asList(FACE))));
     }
 
     private static void insides() {

@@ -187,23 +187,18 @@ public final class TermsOneTests {
         due.is("CUT off", x.cutOff(), 1 << 24);
     }
 
-    private static void refused(String call, SoleReader x, int answer, int by) {
-        due.is(call, answer, by);
-        due.is("status() behind " + call, x.status(), by);
-    }
-
     private static void badNumbers() {
         due.sentence("REFUSED by: -1 a number that can't be;");
         SoleReader x = Due.at(0, 0);
-        refused("pair", x, x.pair(0, 4, 0), -1);
-        refused("wall", x, x.wall(0, 2), -1);
-        refused("terms", x, x.terms(0, 1000), -1);
-        refused("turn", x, x.turn(0, 2), -1);
-        refused("mend", x, x.mend(0, 4), -1);
-        refused("seen", x, x.seen(0, 100), -1);
-        refused("years", x, x.years(0, 61), -1);
-        refused("image", x, x.image(2), -1);
-        refused("back", x, x.back(2), -1);
+        due.refused("pair", x, x.pair(0, 4, 0), -1);
+        due.refused("wall", x, x.wall(0, 2), -1);
+        due.refused("terms", x, x.terms(0, 1000), -1);
+        due.refused("turn", x, x.turn(0, 2), -1);
+        due.refused("mend", x, x.mend(0, 4), -1);
+        due.refused("seen", x, x.seen(0, 100), -1);
+        due.refused("years", x, x.years(0, 61), -1);
+        due.refused("image", x, x.image(2), -1);
+        due.refused("back", x, x.back(2), -1);
         due.is("so many", x.count(6), 9);
         due.is("no others", x.count(7) + x.count(8) + x.count(9) + x.count(10), 0);
     }
@@ -211,12 +206,12 @@ public final class TermsOneTests {
     private static void noSuch() {
         due.sentence("-2 there is no such PAIR, LAW, IMAGE;");
         SoleReader x = new SoleReader();
-        refused("step", x, x.step(0), -2);
-        refused("turn", x, x.turn(0, 0), -2);
-        refused("pause", x, x.pause(0), -2);
-        refused("mend", x, x.mend(0, 0), -2);
-        refused("force", x, x.force(0), -2);
-        refused("back", x, x.back(0), -2);
+        due.refused("step", x, x.step(0), -2);
+        due.refused("turn", x, x.turn(0, 0), -2);
+        due.refused("pause", x, x.pause(0), -2);
+        due.refused("mend", x, x.mend(0, 0), -2);
+        due.refused("force", x, x.force(0), -2);
+        due.refused("back", x, x.back(0), -2);
         due.is("so many", x.count(7), 6);
         due.is("no others", x.count(6) + x.count(8) + x.count(9) + x.count(10), 0);
     }
@@ -224,14 +219,14 @@ public final class TermsOneTests {
     private static void cannot() {
         due.sentence("-3 it can't be by what stands;");
         SoleReader x = new SoleReader();
-        refused("years", x, x.years(0, 1), -3);
-        refused("undo", x, x.undo(), -3);
+        due.refused("years", x, x.years(0, 1), -3);
+        due.refused("undo", x, x.undo(), -3);
         x.terms(0, 999);
-        refused("pass", x, x.pass(), -3);
+        due.refused("pass", x, x.pass(), -3);
         x.pair(24, 0, 0);
-        refused("step", x, x.step(0), -3);
-        refused("mend", x, x.mend(0, 0), -3);
-        refused("orders", x, Due.orders(x, "step 0"), -3);
+        due.refused("step", x, x.step(0), -3);
+        due.refused("mend", x, x.mend(0, 0), -3);
+        due.refused("orders", x, Due.orders(x, "step 0"), -3);
         due.is("so many", x.count(8), 6);
         due.is("no others", x.count(6) + x.count(7) + x.count(9) + x.count(10), 0);
     }
@@ -250,9 +245,9 @@ public final class TermsOneTests {
         due.sentence("-5 no room;");
         SoleReader x = full();
         due.is("none so far", x.count(9), 0);
-        refused("pair", x, x.pair(0, 0, 0), -5);
-        refused("seen", x, x.seen(0, 0), -5);
-        refused("law", x, Due.law(x, "bars"), -5);
+        due.refused("pair", x, x.pair(0, 0, 0), -5);
+        due.refused("seen", x, x.seen(0, 0), -5);
+        due.refused("law", x, Due.law(x, "bars"), -5);
         due.is("so many", x.count(9), 3);
         due.is("no others", x.count(6) + x.count(7) + x.count(8) + x.count(10), 0);
         due.is("there are as many as there were", x.count(0) + x.count(2) + x.count(3), 18);
@@ -261,9 +256,9 @@ public final class TermsOneTests {
     private static void badTexts() {
         due.sentence("-6 a TEXT, a ROW that can't be.");
         SoleReader x = new SoleReader();
-        refused("law", x, Due.law(x, "step 0"), -6);
-        refused("orders", x, Due.orders(x, "bars"), -6);
-        refused("row", x, x.row(), -6);
+        due.refused("law", x, Due.law(x, "step 0"), -6);
+        due.refused("orders", x, Due.orders(x, "bars"), -6);
+        due.refused("row", x, x.row(), -6);
         due.is("so many", x.count(10), 3);
         due.is("no others", x.count(6) + x.count(7) + x.count(8) + x.count(9), 0);
     }
@@ -272,16 +267,16 @@ public final class TermsOneTests {
     private static void firstInOrder() {
         due.sentence("The first of these in that order.");
         SoleReader x = full();
-        refused("pair: -1, -5", x, x.pair(25, 0, 0), -1);
-        refused("seen: -1, -5", x, x.seen(4, 0), -1);
-        refused("law: -5, -6", x, Due.law(x, "nonsense"), -5);
-        refused("law of nothing: -5, -6", x, x.law(), -5);
-        refused("mend: -1, -2", x, x.mend(6, 4), -1);
-        refused("turn: -1, -2", x, x.turn(6, 2), -1);
-        refused("mend: -2, -3", x, x.mend(6, 0), -2);
+        due.refused("pair: -1, -5", x, x.pair(25, 0, 0), -1);
+        due.refused("seen: -1, -5", x, x.seen(4, 0), -1);
+        due.refused("law: -5, -6", x, Due.law(x, "nonsense"), -5);
+        due.refused("law of nothing: -5, -6", x, x.law(), -5);
+        due.refused("mend: -1, -2", x, x.mend(6, 4), -1);
+        due.refused("turn: -1, -2", x, x.turn(6, 2), -1);
+        due.refused("mend: -2, -3", x, x.mend(6, 0), -2);
         SoleReader y = new SoleReader();
-        refused("years: -1, -3", y, y.years(0, 0), -1);
-        refused("back: -1, -2", y, y.back(-1), -1);
+        due.refused("years: -1, -3", y, y.years(0, 0), -1);
+        due.refused("back: -1, -2", y, y.back(-1), -1);
         due.is("each counts once", x.count(6) + x.count(7) + x.count(9), 7);
     }
 }

@@ -24,25 +24,6 @@ public final class TextTests {
         due.close();
     }
 
-    private static void lawFault(String text, int at) {
-        SoleReader x = new SoleReader();
-        due.is("law '" + text + "'", Due.law(x, text), at == NONE ? 0 : -6);
-        due.is("fault of '" + text + "'", x.fault(), at);
-        due.is("the TAPE", x.count(5), 0);
-        due.is("laws", x.count(3), at == NONE ? 1 : 0);
-        due.is("status", x.status(), at == NONE ? 0 : -6);
-    }
-
-    private static void orderFault(String text, int at) {
-        SoleReader x = new SoleReader();
-        x.pair(12, 0, 0);
-        x.pause(0);
-        int answer = Due.orders(x, text);
-        due.is("orders '" + text + "'", answer == -6 ? 1 : 0, at == NONE ? 0 : 1);
-        due.is("fault of '" + text + "'", x.fault(), at);
-        due.is("the TAPE", x.count(5), 0);
-    }
-
     private static void goodLaws() {
         String[] good = {"bars", "wears 1", "leaves 0", " wears  1 ", "wears1", "wears[1]", "bars;bars ; bars",
             "wears pair+load-part*worn/x%y", "wears way if day<mood", "bars if not not not 1=1",
@@ -50,110 +31,110 @@ public final class TextTests {
             "wears 1000", "wears 0001000", "wears 00000000000000000000000001", "bars if 1=1 and 1=1 or 1=1",
             "wears 1if 1=1", "wears 1 if x=1or y=2and not(way=3)", "wears x if x = x"};
         for (String text : good) {
-            lawFault(text, NONE);
+            due.lawFault(text, NONE);
         }
     }
 
     private static void lawFaults() {
-        lawFault("", 0);
-        lawFault("   ", 3);
-        lawFault("wears", 5);
-        lawFault("wears  ", 7);
-        lawFault("wear 1", 0);
-        lawFault("wearss 1", 0);
-        lawFault("wearsz 1", 0);
-        lawFault("wearsa 1", 0);
-        lawFault("wears`1", 5);
-        lawFault("wears{1", 5);
-        lawFault("wears/1", 5);
-        lawFault("wears:1", 5);
-        lawFault("Wears 1", 0);
-        lawFault("wEars 1", 0);
-        lawFault("  step 1", 2);
-        lawFault("wears 1001", 6);
-        lawFault("wears 99999999999999999999", 6);
-        lawFault("wears -1", 6);
-        lawFault("wears 1 1", 8);
-        lawFault("wears 1 +", 9);
-        lawFault("wears 1 + * 2", 10);
-        lawFault("wears (1)", 6);
-        lawFault("wears [1", 8);
-        lawFault("wears [1)", 8);
-        lawFault("wears []", 7);
-        lawFault("bars 1", 5);
-        lawFault("bars if", 7);
-        lawFault("bars if x", 9);
-        lawFault("bars if x+1", 11);
-        lawFault("bars if x = 1 = 1", 14);
-        lawFault("bars if x = ", 12);
-        lawFault("bars if (x) = 1", 10);
-        lawFault("bars if [x = 1]", 11);
-        lawFault("bars if (x = 1", 14);
-        lawFault("bars if (x = 1]", 14);
-        lawFault("bars if x = 1)", 13);
-        lawFault("bars if not", 11);
-        lawFault("bars if not x", 13);
-        lawFault("bars if notnot x = 1", 8);
-        lawFault("bars if x = 1 and", 17);
-        lawFault("bars if x = 1 and or", 18);
-        lawFault("bars if x = 1 not", 14);
-        lawFault("bars if x = 1 if", 14);
-        lawFault("bars if x <= 1", 11);
-        lawFault("bars;", 5);
-        lawFault(";bars", 0);
-        lawFault("bars;;bars", 5);
-        lawFault("bars bars", 5);
-        lawFault("bars times 2", 5);
-        lawFault("wears done", 6);
-        lawFault("wears cell 1", 6);
-        lawFault("wears toe", 6);
-        lawFault("wears 1 if day = 1;wears x if", 29);
-        lawFault("wears 1\t", 7);
-        lawFault("wears\n1", 5);
-        lawFault("wears \u00e9", 6);
-        lawFault("wears 1\u0000", 7);
-        lawFault("wears 1,", 7);
-        lawFault("wears if", 6);
-        lawFault("wears 12x", 8);
-        lawFault("wears x12", 7);
-        lawFault("wears worn worn", 11);
+        due.lawFault("", 0);
+        due.lawFault("   ", 3);
+        due.lawFault("wears", 5);
+        due.lawFault("wears  ", 7);
+        due.lawFault("wear 1", 0);
+        due.lawFault("wearss 1", 0);
+        due.lawFault("wearsz 1", 0);
+        due.lawFault("wearsa 1", 0);
+        due.lawFault("wears`1", 5);
+        due.lawFault("wears{1", 5);
+        due.lawFault("wears/1", 5);
+        due.lawFault("wears:1", 5);
+        due.lawFault("Wears 1", 0);
+        due.lawFault("wEars 1", 0);
+        due.lawFault("  step 1", 2);
+        due.lawFault("wears 1001", 6);
+        due.lawFault("wears 99999999999999999999", 6);
+        due.lawFault("wears -1", 6);
+        due.lawFault("wears 1 1", 8);
+        due.lawFault("wears 1 +", 9);
+        due.lawFault("wears 1 + * 2", 10);
+        due.lawFault("wears (1)", 6);
+        due.lawFault("wears [1", 8);
+        due.lawFault("wears [1)", 8);
+        due.lawFault("wears []", 7);
+        due.lawFault("bars 1", 5);
+        due.lawFault("bars if", 7);
+        due.lawFault("bars if x", 9);
+        due.lawFault("bars if x+1", 11);
+        due.lawFault("bars if x = 1 = 1", 14);
+        due.lawFault("bars if x = ", 12);
+        due.lawFault("bars if (x) = 1", 10);
+        due.lawFault("bars if [x = 1]", 11);
+        due.lawFault("bars if (x = 1", 14);
+        due.lawFault("bars if (x = 1]", 14);
+        due.lawFault("bars if x = 1)", 13);
+        due.lawFault("bars if not", 11);
+        due.lawFault("bars if not x", 13);
+        due.lawFault("bars if notnot x = 1", 8);
+        due.lawFault("bars if x = 1 and", 17);
+        due.lawFault("bars if x = 1 and or", 18);
+        due.lawFault("bars if x = 1 not", 14);
+        due.lawFault("bars if x = 1 if", 14);
+        due.lawFault("bars if x <= 1", 11);
+        due.lawFault("bars;", 5);
+        due.lawFault(";bars", 0);
+        due.lawFault("bars;;bars", 5);
+        due.lawFault("bars bars", 5);
+        due.lawFault("bars times 2", 5);
+        due.lawFault("wears done", 6);
+        due.lawFault("wears cell 1", 6);
+        due.lawFault("wears toe", 6);
+        due.lawFault("wears 1 if day = 1;wears x if", 29);
+        due.lawFault("wears 1\t", 7);
+        due.lawFault("wears\n1", 5);
+        due.lawFault("wears \u00e9", 6);
+        due.lawFault("wears 1\u0000", 7);
+        due.lawFault("wears 1,", 7);
+        due.lawFault("wears if", 6);
+        due.lawFault("wears 12x", 8);
+        due.lawFault("wears x12", 7);
+        due.lawFault("wears worn worn", 11);
     }
 
     private static void limits() {
         String twelve = "bars" + Due.times(";bars", 11);
-        lawFault(twelve, NONE);
-        lawFault(twelve + ";", twelve.length() + 1);
-        lawFault(twelve + "; ", twelve.length() + 2);
-        lawFault(twelve + "; bars", twelve.length() + 2);
-        lawFault(twelve + "; ?", twelve.length() + 2);
+        due.lawFault(twelve, NONE);
+        due.lawFault(twelve + ";", twelve.length() + 1);
+        due.lawFault(twelve + "; ", twelve.length() + 2);
+        due.lawFault(twelve + "; bars", twelve.length() + 2);
+        due.lawFault(twelve + "; ?", twelve.length() + 2);
         String fifty = "wears 1" + Due.times("+x", 49);
-        lawFault(fifty, NONE);
-        lawFault(fifty + "+1", fifty.length() + 1);
-        lawFault(fifty + "+[1]", fifty.length() + 2);
-        lawFault(fifty + "+", fifty.length() + 1);
-        lawFault(fifty + ";bars", NONE);
-        lawFault(fifty + ";bars if 1=1", fifty.length() + 9);
-        lawFault("wears [[[[[[[[1]]]]]]]]", NONE);
-        lawFault("wears [[[[[[[[[1]]]]]]]]]", 14);
-        lawFault("bars if ((((((((1=1))))))))", NONE);
-        lawFault("bars if (((((((((1=1)))))))))", 16);
-        lawFault("bars if (((([[[[1]]]]=1))))", NONE);
-        lawFault("bars if (((([[[[[1]]]]]=1))))", 16);
-        lawFault("bars if (1=1) and ((((((((1=1))))))))", NONE);
+        due.lawFault(fifty, NONE);
+        due.lawFault(fifty + "+1", fifty.length() + 1);
+        due.lawFault(fifty + "+[1]", fifty.length() + 2);
+        due.lawFault(fifty + "+", fifty.length() + 1);
+        due.lawFault(fifty + ";bars", NONE);
+        due.lawFault(fifty + ";bars if 1=1", fifty.length() + 9);
+        due.lawFault("wears [[[[[[[[1]]]]]]]]", NONE);
+        due.lawFault("wears [[[[[[[[[1]]]]]]]]]", 14);
+        due.lawFault("bars if ((((((((1=1))))))))", NONE);
+        due.lawFault("bars if (((((((((1=1)))))))))", 16);
+        due.lawFault("bars if (((([[[[1]]]]=1))))", NONE);
+        due.lawFault("bars if (((([[[[[1]]]]]=1))))", 16);
+        due.lawFault("bars if (1=1) and ((((((((1=1))))))))", NONE);
         String nots = "bars if " + Due.times("not ", 96) + "1=1";
-        lawFault(nots, NONE);
-        orderFault("step cell 0" + Due.times("+cell 0", 49), NONE);
-        orderFault("pass if cell 0" + Due.times("+cell 0", 48) + "=1", NONE);
-        orderFault("pass times 2;".repeat(2) + "pass if cell 0" + Due.times("+cell 0", 49) + "=1",
+        due.lawFault(nots, NONE);
+        due.orderFault("step cell 0" + Due.times("+cell 0", 49), NONE);
+        due.orderFault("pass if cell 0" + Due.times("+cell 0", 48) + "=1", NONE);
+        due.orderFault("pass times 2;".repeat(2) + "pass if cell 0" + Due.times("+cell 0", 49) + "=1",
             26 + 14 + 7 * 49 + 1);
-        orderFault("pass;".repeat(11) + "pass", NONE);
-        orderFault("pass;".repeat(12) + "pass", 60);
-        orderFault("turn 0 to [[[[[[[[1]]]]]]]]", NONE);
-        orderFault("turn 0 to [[[[[[[[[1]]]]]]]]]", 18);
-        orderFault("turn [[[[[[[[0]]]]]]]] to 1", NONE);
+        due.orderFault("pass;".repeat(11) + "pass", NONE);
+        due.orderFault("pass;".repeat(12) + "pass", 60);
+        due.orderFault("turn 0 to [[[[[[[[1]]]]]]]]", NONE);
+        due.orderFault("turn 0 to [[[[[[[[[1]]]]]]]]]", 18);
+        due.orderFault("turn [[[[[[[[0]]]]]]]] to 1", NONE);
         String longest = "wears 1" + Due.times(" ", 393);
-        lawFault(longest, NONE);
-        lawFault("wears 1 " + Due.times(" ", 391) + "?", 399);
+        due.lawFault(longest, NONE);
+        due.lawFault("wears 1 " + Due.times(" ", 391) + "?", 399);
     }
 
     private static void lawRoom() {
@@ -190,98 +171,85 @@ public final class TextTests {
         }
     }
 
-    /** What a SUM comes to, told by mending (0 .. 99). */
-    private static void sum(String sum, int want) {
-        SoleReader x = Due.under("leaves " + sum);
-        x.pair(13, 1, 4);
-        due.is("leaves " + sum, x.asks(0, 0, 1), want);
-    }
-
     private static void sums() {
-        sum("1+2*3", 7);
-        sum("[1+2]*3", 9);
-        sum("10-3-2", 5);
-        sum("10-[3-2]", 9);
-        sum("2*3+4*5", 26);
-        sum("2*3-4/2", 4);
-        sum("100/7/2", 7);
-        sum("100%7", 2);
-        sum("100-7%4*3", 91);
-        sum("50+[0-7]/2", 47);
-        sum("50+[0-7]%2", 49);
-        sum("50+7/[0-2]", 47);
-        sum("50+7%[0-2]", 51);
-        sum("1000", 99);
-        sum("0-1", 0);
-        sum("100", 99);
-        sum("98+1", 99);
-        sum("x*10+y", 32);
-        sum("load+way", 5);
-        sum("1-2+3*4%5/2+7", 7);
-        sum("8/4*2", 4);
-        sum("8%5*2", 6);
-        sum("0/5+3", 3);
+        due.sum("1+2*3", 7);
+        due.sum("[1+2]*3", 9);
+        due.sum("10-3-2", 5);
+        due.sum("10-[3-2]", 9);
+        due.sum("2*3+4*5", 26);
+        due.sum("2*3-4/2", 4);
+        due.sum("100/7/2", 7);
+        due.sum("100%7", 2);
+        due.sum("100-7%4*3", 91);
+        due.sum("50+[0-7]/2", 47);
+        due.sum("50+[0-7]%2", 49);
+        due.sum("50+7/[0-2]", 47);
+        due.sum("50+7%[0-2]", 51);
+        due.sum("1000", 99);
+        due.sum("0-1", 0);
+        due.sum("100", 99);
+        due.sum("98+1", 99);
+        due.sum("x*10+y", 32);
+        due.sum("load+way", 5);
+        due.sum("1-2+3*4%5/2+7", 7);
+        due.sum("8/4*2", 4);
+        due.sum("8%5*2", 6);
+        due.sum("0/5+3", 3);
     }
 
     private static void broken() {
-        sum("1000*1000*1000/1000/1000/1000", 1);
-        sum("1000*1000*1000+1", 0);
-        sum("1000*1000*1000+1-1000*1000*1000", 0);
-        sum("[0-1000]*1000*1000+5+1000*1000*1000", 5);
-        sum("[0-1000]*1000*1000-1+2", 0);
-        sum("7;leaves 1000*1000*1000*2", 7);
-        sum("7;leaves 1/0", 7);
-        sum("7;leaves 1%0", 7);
-        sum("7;leaves 1%[x-x]", 7);
-        sum("7;leaves 8 if 1/0=1", 7);
-        sum("7;leaves 8 if not 1/0=1", 7);
-        sum("7;leaves 8 if 1=1 or 1/0=1", 8);
-        sum("7;leaves 8 if 1=2 or 1/0=1", 7);
-        sum("7;leaves 8 if 1/0=1 or 1=1", 7);
-        sum("7;leaves 8 if 1=2 and 1/0=1 or 1=1", 8);
-        sum("7;leaves 8 if 1=1 and 1/0=1 or 1=1", 7);
-        sum("7;leaves 8 if not(1=2 and 1/0=1)", 8);
-        sum("7;leaves 8 if 1=1 or 1=1 and 1/0=1", 8);
-        sum("7;leaves 8 if (1=1 or 1/0=1) and 2=2", 8);
-        sum("7;leaves 8 if 1=2 and 1/0=1 and 1/0=1 or 1=2 or 3=3 or 1/0=1", 8);
-    }
-
-    private static void test(String test, boolean want) {
-        SoleReader x = Due.under("leaves 1 if " + test);
-        x.pair(0, 0, 0);
-        due.is("if " + test, x.asks(0, 0, 1), want ? 1 : 0);
+        due.sum("1000*1000*1000/1000/1000/1000", 1);
+        due.sum("1000*1000*1000+1", 0);
+        due.sum("1000*1000*1000+1-1000*1000*1000", 0);
+        due.sum("[0-1000]*1000*1000+5+1000*1000*1000", 5);
+        due.sum("[0-1000]*1000*1000-1+2", 0);
+        due.sum("7;leaves 1000*1000*1000*2", 7);
+        due.sum("7;leaves 1/0", 7);
+        due.sum("7;leaves 1%0", 7);
+        due.sum("7;leaves 1%[x-x]", 7);
+        due.sum("7;leaves 8 if 1/0=1", 7);
+        due.sum("7;leaves 8 if not 1/0=1", 7);
+        due.sum("7;leaves 8 if 1=1 or 1/0=1", 8);
+        due.sum("7;leaves 8 if 1=2 or 1/0=1", 7);
+        due.sum("7;leaves 8 if 1/0=1 or 1=1", 7);
+        due.sum("7;leaves 8 if 1=2 and 1/0=1 or 1=1", 8);
+        due.sum("7;leaves 8 if 1=1 and 1/0=1 or 1=1", 7);
+        due.sum("7;leaves 8 if not(1=2 and 1/0=1)", 8);
+        due.sum("7;leaves 8 if 1=1 or 1=1 and 1/0=1", 8);
+        due.sum("7;leaves 8 if (1=1 or 1/0=1) and 2=2", 8);
+        due.sum("7;leaves 8 if 1=2 and 1/0=1 and 1/0=1 or 1=2 or 3=3 or 1/0=1", 8);
     }
 
     private static void tests() {
-        test("1<2", true);
-        test("2<2", false);
-        test("3<2", false);
-        test("3>2", true);
-        test("2>2", false);
-        test("2=2", true);
-        test("1=2", false);
-        test("1+1=4/2", true);
-        test("not 1=2", true);
-        test("not not 1=2", false);
-        test("not not not 1=2", true);
-        test("not (1=1 and 1=2)", true);
-        test("not 1=1 or 1=1", true);
-        test("not (1=1 or 1=1)", false);
-        test("1=1 or 1=1 and 1=2", true);
-        test("(1=1 or 1=1) and 1=2", false);
-        test("1=2 and 1=1 or 1=1", true);
-        test("1=2 and (1=1 or 1=1)", false);
-        test("1=2 or 1=2 or 1=1", true);
-        test("1=1 and 1=1 and 1=2", false);
-        test("1=1 and not 1=2 and 3>2", true);
-        test("0-1<0", true);
-        test("[1+1]*2>[2]+1", true);
-        test("not (not (1=1))", true);
-        test("not (not (1=2))", false);
-        test("not (not (1=1)) and 1=1", true);
-        test("not (1=1) or not (1=1)", false);
-        test("not (1=1) and 1=1 or 1=2", false);
-        test("1=2 or not (not (1=1) or 1=1)", false);
+        due.test("1<2", true);
+        due.test("2<2", false);
+        due.test("3<2", false);
+        due.test("3>2", true);
+        due.test("2>2", false);
+        due.test("2=2", true);
+        due.test("1=2", false);
+        due.test("1+1=4/2", true);
+        due.test("not 1=2", true);
+        due.test("not not 1=2", false);
+        due.test("not not not 1=2", true);
+        due.test("not (1=1 and 1=2)", true);
+        due.test("not 1=1 or 1=1", true);
+        due.test("not (1=1 or 1=1)", false);
+        due.test("1=1 or 1=1 and 1=2", true);
+        due.test("(1=1 or 1=1) and 1=2", false);
+        due.test("1=2 and 1=1 or 1=1", true);
+        due.test("1=2 and (1=1 or 1=1)", false);
+        due.test("1=2 or 1=2 or 1=1", true);
+        due.test("1=1 and 1=1 and 1=2", false);
+        due.test("1=1 and not 1=2 and 3>2", true);
+        due.test("0-1<0", true);
+        due.test("[1+1]*2>[2]+1", true);
+        due.test("not (not (1=1))", true);
+        due.test("not (not (1=2))", false);
+        due.test("not (not (1=1)) and 1=1", true);
+        due.test("not (1=1) or not (1=1)", false);
+        due.test("not (1=1) and 1=1 or 1=2", false);
+        due.test("1=2 or not (not (1=1) or 1=1)", false);
     }
 
     private static void whichClauseHolds() {
@@ -354,42 +322,42 @@ public final class TextTests {
             "pause heel 1 + 1", "step 0 times 2 if done = 0 or latest > pairs + walls", "pause cell0-12",
             "turn[0]to[1]", "pass if cell 5 = 0 - 1", "pass if toe 05 = 0"};
         for (String text : good) {
-            orderFault(text, NONE);
+            due.orderFault(text, NONE);
         }
     }
 
     private static void orderFaults() {
-        orderFault("", 0);
-        orderFault("  ", 2);
-        orderFault("wears 1", 0);
-        orderFault("pass 1", 5);
-        orderFault("step", 4);
-        orderFault("step 0 1", 7);
-        orderFault("turn 0", 6);
-        orderFault("turn 0 at 1", 7);
-        orderFault("turn 0 to", 9);
-        orderFault("mend 0 to 1", 7);
-        orderFault("mend 0 at", 9);
-        orderFault("mend to 1", 5);
-        orderFault("pause", 5);
-        orderFault("pass times", 10);
-        orderFault("pass times 0", 11);
-        orderFault("pass times 21", 11);
-        orderFault("pass times x", 11);
-        orderFault("pass times [2]", 11);
-        orderFault("pass times 1+1", 12);
-        orderFault("pass times 2 times 2", 13);
-        orderFault("pass if 1=1 times 2", 12);
-        orderFault("step x", 5);
-        orderFault("step pair", 5);
-        orderFault("step cell", 9);
-        orderFault("step cell 6", 10);
-        orderFault("step cell day", 10);
-        orderFault("step toe [1]", 9);
-        orderFault("step heel 0 0", 12);
-        orderFault("pass;", 5);
-        orderFault("pass;step 0;turn", 16);
-        orderFault("pass if done", 12);
+        due.orderFault("", 0);
+        due.orderFault("  ", 2);
+        due.orderFault("wears 1", 0);
+        due.orderFault("pass 1", 5);
+        due.orderFault("step", 4);
+        due.orderFault("step 0 1", 7);
+        due.orderFault("turn 0", 6);
+        due.orderFault("turn 0 at 1", 7);
+        due.orderFault("turn 0 to", 9);
+        due.orderFault("mend 0 to 1", 7);
+        due.orderFault("mend 0 at", 9);
+        due.orderFault("mend to 1", 5);
+        due.orderFault("pause", 5);
+        due.orderFault("pass times", 10);
+        due.orderFault("pass times 0", 11);
+        due.orderFault("pass times 21", 11);
+        due.orderFault("pass times x", 11);
+        due.orderFault("pass times [2]", 11);
+        due.orderFault("pass times 1+1", 12);
+        due.orderFault("pass times 2 times 2", 13);
+        due.orderFault("pass if 1=1 times 2", 12);
+        due.orderFault("step x", 5);
+        due.orderFault("step pair", 5);
+        due.orderFault("step cell", 9);
+        due.orderFault("step cell 6", 10);
+        due.orderFault("step cell day", 10);
+        due.orderFault("step toe [1]", 9);
+        due.orderFault("step heel 0 0", 12);
+        due.orderFault("pass;", 5);
+        due.orderFault("pass;step 0;turn", 16);
+        due.orderFault("pass if done", 12);
     }
 
     private static void ordersRun() {
