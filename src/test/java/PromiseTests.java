@@ -627,6 +627,7 @@ public final class PromiseTests {
         due.is("where they are", x.of(0, 0) + x.of(1, 0), 0);
         due.is("as they FACE", x.of(0, 1) + x.of(1, 1), 0);
         due.is("DAY", x.count(12), 0);
+        undoAllTold();
         undoByOrders();
         undoSixteen();
         due.sentence("-3 there is none (nothing that was ahead of a pair(), terms(), row(), back() that was not REFUSED can be"
@@ -635,6 +636,37 @@ public final class PromiseTests {
         undoLeft();
         undoCleared();
         due.quotesAllOf(Document.promise(22));
+    }
+
+    /** All that undo() brings back, asked ahead of each act and again behind its undo(). */
+    private static void undoAllTold() {
+        SoleReader x = Due.worn(new int[] {1, 2, 3, 4});
+        x.pair(13, 2, 7);
+        Due.law(x, "wears part + 2; leaves 20 + part");
+        x.force(1);
+        String[] acts = {"turn 1 to 1", "step 1", "pass", "turn 0 to 0", "mend 0 at 2", "pass", "pause 1", "step 1", "pass",
+            "turn 1 to 0", "mend 1 at 3", "pause 0"};
+        int[] kinds = {1, 0, 4, 1, 3, 4, 2, 0, 4, 1, 3, 2};
+        String[] ahead = new String[acts.length];
+        for (int i = 0; i < acts.length; i++) {
+            ahead[i] = told(x);
+            due.holds("the act did something", i == 0 || !ahead[i].equals(ahead[i - 1]));
+            due.is(acts[i], Due.orders(x, acts[i]), 1);
+            x.step(9);
+        }
+        for (int i = acts.length - 1; i >= 0; i--) {
+            due.is("undo of " + acts[i], x.undo(), kinds[i]);
+            String then = told(x);
+            due.holds("as ahead of " + acts[i] + " (" + ahead[i] + "): " + then, then.equals(ahead[i]));
+        }
+    }
+
+    private static String told(SoleReader x) {
+        StringBuilder all = new StringBuilder("DAY " + x.count(12));
+        for (int i = 0; i < 14; i++) {
+            all.append(i % 7 == 0 ? "; " : " ").append(x.of(i / 7, i % 7));
+        }
+        return all.toString();
     }
 
     private static void undoByOrders() {

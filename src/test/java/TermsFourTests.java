@@ -356,6 +356,7 @@ public final class TermsFourTests {
             due.is("SEEN", x.count(2), 1);
             due.is("DAY", x.count(12), 77);
         }
+        backToSix();
         x.back(0);
         x.image(1);
         change(x);
@@ -375,6 +376,37 @@ public final class TermsFourTests {
         due.is("an empty YARD", y.count(0) + y.count(1) + y.count(2) + y.count(3) + y.count(12) + y.count(14), 0);
         due.is("SLIPS", y.count(13), 1);
         due.is("in FORCE", y.count(11), NONE);
+    }
+
+    private static void backToSix() {
+        int[][] worn = new int[6][4];
+        for (int i = 0; i < 24; i++) {
+            worn[i / 4][i % 4] = 99 - 4 * i;
+        }
+        SoleReader x = Due.worn(worn);
+        x.image(0);
+        Due.orders(x, "step 0; step 1; step 2; step 3; step 4; step 5; turn 3 to 1; turn 5 to 0; mend 4 at 1; pause 5");
+        x.back(0);
+        for (int i = 0; i < 24; i++) {
+            due.is("PAIR " + i / 4 + ", PART " + i % 4, x.of(i / 4, 3 + i % 4), worn[i / 4][i % 4]);
+        }
+        for (int pair = 0; pair < 6; pair++) {
+            due.is("CELL", x.of(pair, 0), 0);
+            due.is("WAY", x.of(pair, 1), 0);
+        }
+        SoleReader y = new SoleReader();
+        y.image(0);
+        y.pair(1, 1, 1);
+        y.pair(2, 2, 2);
+        y.image(1);
+        y.back(0);
+        y.pair(3, 3, 3);
+        y.pair(4, 0, 4);
+        y.back(1);
+        for (int what = 0; what < 3; what++) {
+            due.is("CELL, WAY, LOAD", y.of(0, what), 1);
+            due.is("CELL, WAY, LOAD", y.of(1, what), 2);
+        }
     }
 
     private static void constants() {

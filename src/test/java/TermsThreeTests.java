@@ -428,12 +428,26 @@ public final class TermsThreeTests {
         due.sentence("BY CHANCE: of 1,000,000,000,000 parts how many are at a CELL behind n acts, each STEP, TURN left, TURN"
             + " right with a third (cut; what is left over is lost) of what there is, a STEP that can't be staying where it"
             + " is.");
-        int[] to = steps(LAW, WALLS);
+        chances(steps(LAW, WALLS), 57, walled(14, 1));
+        // through a winding of WALLS, at whose end a part or two are left
+        int[] winding = {5, 6, 7, 8, 16, 17, 18, 19};
+        SoleReader far = Due.at(0, 1);
+        for (int wall : winding) {
+            far.wall(wall, 1);
+        }
+        chances(steps("bars if 1=2", winding), 1, far);
+        due.is("cut", Due.at(12, 0, "bars").chance(0, 12, 1), 999_999_999_999L);
+        due.is("cut again, by four places", Due.at(12, 0, "bars").chance(0, 12, 2), 999_999_999_999L);
+        due.is("none elsewhere", Due.at(12, 0, "bars").chance(0, 17, 30), 0);
+        due.is("out of the YARD one stays", Due.at(20, 0).chance(0, 20, 1), 999_999_999_999L);
+        due.is("a STEP is a third", Due.at(20, 2).chance(0, 20, 1), 666_666_666_666L);
+    }
+
+    private static void chances(int[] to, int start, SoleReader x) {
         long[] parts = new long[100];
-        parts[57] = WHOLE;
-        SoleReader x = walled(14, 1);
+        parts[start] = WHOLE;
         for (int n = 0; n <= 30; n++) {
-            for (int cell = n % 5; cell < 25; cell += 5) {
+            for (int cell = n < 22 ? n % 5 : 0; cell < 25; cell += n < 22 ? 5 : 1) {
                 due.is("CELL " + cell + " behind " + n, x.chance(0, cell, n),
                     parts[cell * 4] + parts[cell * 4 + 1] + parts[cell * 4 + 2] + parts[cell * 4 + 3]);
             }
@@ -446,11 +460,6 @@ public final class TermsThreeTests {
             }
             parts = then;
         }
-        due.is("cut", Due.at(12, 0, "bars").chance(0, 12, 1), 999_999_999_999L);
-        due.is("cut again, by four places", Due.at(12, 0, "bars").chance(0, 12, 2), 999_999_999_999L);
-        due.is("none elsewhere", Due.at(12, 0, "bars").chance(0, 17, 30), 0);
-        due.is("out of the YARD one stays", Due.at(20, 0).chance(0, 20, 1), 999_999_999_999L);
-        due.is("a STEP is a third", Due.at(20, 2).chance(0, 20, 1), 666_666_666_666L);
     }
 
     private static void within() {

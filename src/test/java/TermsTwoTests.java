@@ -39,6 +39,20 @@ public final class TermsTwoTests {
         due.orderFault(" ".repeat(396) + "pass", NONE);
         due.orderFault(" ".repeat(394) + "pass;", 399);
         due.orderFault("pass;" + " ".repeat(395), 400);
+        manyTexts();
+    }
+
+    /** Each TEXT is read from its own beginning, however many were read ahead of it. */
+    private static void manyTexts() {
+        SoleReader x = Due.at(10, 0);
+        x.image(0);
+        for (int i = 0; i < 16; i++) {
+            due.is("orders " + i, Due.orders(x, "pass if 1" + "+1".repeat(40) + "=41; pass"), 2);
+            due.is("law " + i, Due.law(x, "wears " + i % 9 + "+x".repeat(48)), 0);
+            due.is("by it", x.compare(0, 0, 0), i % 9);
+            due.is("a shorter one", Due.orders(x, "pass"), 1);
+            x.back(0);
+        }
     }
 
     private static void tokens() {
@@ -52,6 +66,10 @@ public final class TermsTwoTests {
         due.lawFault("wears x y", 8);
         due.lawFault("wears 1 0", 8);
         due.lawFault("wears 10", NONE);
+        due.lawFault("wearsa 1", 0);
+        due.lawFault("wearsz 1", 0);
+        due.lawFault("wears 0a", 7);
+        due.lawFault("wears 9z", 7);
         due.lawFault("we ars 1", 0);
         due.lawFault("barsif 1=1", 0);
         due.lawFault("bars if 1=1or2=2", NONE);
@@ -112,6 +130,18 @@ public final class TermsTwoTests {
             due.test(p + " and " + q + " or " + r, a && b || c);
             due.test(p + " or " + q + " or " + r, a || b || c);
             due.test(p + " and " + q + " and " + r, a && b && c);
+        }
+        for (String no : new String[] {"1<1", "2<1", "1>1", "1>2", "1=2"}) {
+            for (String yes : new String[] {"1<2", "2>1", "1=1"}) {
+                due.test(no + " and " + yes, false);
+                due.test(yes + " and " + no, false);
+                due.test(no + " or " + yes, true);
+                due.test(yes + " or " + no, true);
+                due.test("not " + no + " and " + yes, true);
+                due.test("not " + yes + " or " + no, false);
+                due.test(no + " or " + no, false);
+                due.test(yes + " and " + yes, true);
+            }
         }
         due.lawFault("bars if 1=1 or", 14);
         due.lawFault("bars if 1=1 and", 15);
@@ -336,7 +366,7 @@ public final class TermsTwoTests {
         broken("0%5", 0);
         int[] numbers = {7, -7, 8, -8, 1, -1};
         for (int a : numbers) {
-            for (int b : new int[] {2, -2, 3, -3, 8, -8}) {
+            for (int b : new int[] {1, -1, 2, -2, 3, -3, 8, -8}) {
                 String told = "[" + (a < 0 ? "0-" + -a : "" + a) + "]";
                 String by = "[" + (b < 0 ? "0-" + -b : "" + b) + "]";
                 due.sum("50+" + told + "/" + by, 50 + a / b);

@@ -161,7 +161,7 @@ public final class TextTests {
     private static void manyTexts() {
         SoleReader x = new SoleReader();
         x.image(0);
-        for (int i = 0; i < 30; i++) {
+        for (int i = 0; i < 18; i++) {
             due.is("law " + i, Due.law(x, "wears " + i % 9 + "+x".repeat(49)), 0);
             due.is("orders " + i, Due.orders(x, "pass if 1" + "+1".repeat(40) + "=41"), 1);
             due.is("laws", x.count(3), 1);
