@@ -39,6 +39,7 @@ public final class FormTests {
         lengths(bodies);
         depth(bodies);
         allocation();
+        manyCalls();
         due.close();
     }
 
@@ -252,6 +253,19 @@ public final class FormTests {
         x.law();
         used = bytes() - start;
         due.holds("a law's bytes: " + used, used < 4096);
+    }
+
+    /** An object is used for at most 512 calls: so many it must answer. */
+    private static void manyCalls() {
+        SoleReader x = new SoleReader();
+        for (int call = 1; call <= 512; call++) {
+            due.is("call " + call, x.pass(), call);
+        }
+        SoleReader y = Due.at(12, 0, "wears 1" + Due.times("+x", 20) + ";bars if " + Due.times("not ", 60) + "x=9");
+        for (int call = y.count(0); call < 500; call += 23) {
+            dearCalls(y);
+        }
+        due.is("it still stands", y.count(0), 1);
     }
 
     private static void dearCalls(SoleReader x) {

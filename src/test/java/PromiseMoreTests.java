@@ -188,6 +188,12 @@ public final class PromiseMoreTests {
         for (int what = 0; what <= 4; what++) {
             due.is("couples(" + what + ")", x.couples(what), want[what]);
         }
+        x.pause(3);
+        x.mend(1, 0);
+        int[] then = {9 + 0 + 1 + 3, 1, 0, 3, 2};
+        for (int what = 0; what <= 4; what++) {
+            due.is("as they are WORN now, couples(" + what + ")", x.couples(what), then[what]);
+        }
         due.is("no PAIRS", new SoleReader().couples(0), 0);
         due.is("one PAIR", Due.at(0, 0).couples(0), 0);
         due.is("one PAIR, alone", Due.at(0, 0).couples(1), 0);

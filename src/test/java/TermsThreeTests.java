@@ -429,13 +429,9 @@ public final class TermsThreeTests {
             + " right with a third (cut; what is left over is lost) of what there is, a STEP that can't be staying where it"
             + " is.");
         chances(steps(LAW, WALLS), 57, walled(14, 1));
-        // through a winding of WALLS, at whose end a part or two are left
-        int[] winding = {5, 6, 7, 8, 16, 17, 18, 19};
-        SoleReader far = Due.at(0, 1);
-        for (int wall : winding) {
-            far.wall(wall, 1);
-        }
-        chances(steps("bars if 1=2", winding), 1, far);
+        // to and fro through all rows, so far that but a part or two come there
+        String winding = "bars if way = 2; bars if way = 0 and not (y % 2 = 1 and x = 4 or y % 2 = 0 and x = 0)";
+        chances(steps(winding), 1, Due.at(0, 1, winding));
         due.is("cut", Due.at(12, 0, "bars").chance(0, 12, 1), 999_999_999_999L);
         due.is("cut again, by four places", Due.at(12, 0, "bars").chance(0, 12, 2), 999_999_999_999L);
         due.is("none elsewhere", Due.at(12, 0, "bars").chance(0, 17, 30), 0);
