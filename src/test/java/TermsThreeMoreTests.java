@@ -273,7 +273,7 @@ public final class TermsThreeMoreTests {
             walls(x, walls);
             due.is("WALLS " + walls, x.cutOff(), cut(walls));
         }
-        // the longest way there is: to and fro through all rows
+        // a long way, to and fro between two rows of WALLS
         int snake = 0xF << 5 | 0x1E << 15;
         SoleReader y = new SoleReader();
         walls(y, snake);
